@@ -27,6 +27,7 @@ public final class ErrataRow {
     private static final int LOOKED_FOR_RING = 60;
     private static final int PUTS = 8;
     private static final int BITS_OF_PUT = 3;
+    private static final int MOST_QUARTER = 9;
 
     private final int[] tape = new int[MOST_BYTES];
     private int tapeLength;
@@ -493,8 +494,8 @@ public final class ErrataRow {
         keepFound(wrongAhead(NONE, NONE, n), NONE, NONE);
         for (int letter = 0; letter < world.book.letters; letter++) {
             for (int put = 0; put < PUTS; put++) {
+                // As it is PUT now is none, which was first: so it is never fewer.
                 int wrong = wrongAhead(letter, put, n);
-                // As it is PUT now is none: that was first, and is never fewer.
                 if (wrong < found[0]) {
                     keepFound(wrong, letter, put);
                 }
@@ -535,12 +536,25 @@ public final class ErrataRow {
         if (!world.book.told || !within(n, 1, MOST_TRIED)) {
             return NONE;
         }
+        startFrom(world.now);
+        if (press.rule == null || !press.rule.asksFor(Tokens.PURSE)) {
+            return costOf(n);
+        }
         for (int purse = 0; purse <= MOST_COUNTED; purse++) {
             if (isEnough(purse, n)) {
                 return purse;
             }
         }
         return -2;
+    }
+
+    // Where no rule asks for the purse, all goes on alike by any that is enough: one try tells.
+    private int costOf(int n) {
+        int ample = MOST_TRIED * MOST_LETTERS * MOST_QUARTER;
+        trial.purse = ample;
+        goOn(n);
+        int cost = ample - trial.purse;
+        return cost <= MOST_COUNTED ? cost : -2;
     }
 
     private boolean isEnough(int purse, int n) {
@@ -646,11 +660,6 @@ public final class ErrataRow {
         return true;
     }
 
-    private boolean isRuled(int rule) {
-        startByRule(rule);
-        return areNotesSo();
-    }
-
     private void startByRule(int rule) {
         readyPress(rule);
         trial.copyFrom(world.book.begin);
@@ -663,7 +672,8 @@ public final class ErrataRow {
         int many = 0;
         int first = -2;
         for (int rule = ruleCount - 1; rule >= NONE; rule--) {
-            if (isRuled(rule)) {
+            startByRule(rule);
+            if (areNotesSo()) {
                 many++;
                 first = rule;
             }
@@ -694,7 +704,8 @@ public final class ErrataRow {
     private int keepPutsOfRuled(int n) {
         int many = 0;
         for (int rule = NONE; rule < ruleCount; rule++) {
-            if (isRuled(rule)) {
+            startByRule(rule);
+            if (areNotesSo()) {
                 startByRule(rule);
                 goOn(n);
                 scratch[many] = packed(trial.put);
@@ -1069,7 +1080,7 @@ public final class ErrataRow {
         }
 
         private int habitOf(State state) {
-            return Math.floorMod(state.edition, book.editionsRound());
+            return book.habits > 0 ? state.edition % book.habits : 0;
         }
 
         private void tellWords(State state, int wrong, int loose) {
@@ -1159,27 +1170,27 @@ public final class ErrataRow {
             State first = states[0];
             if (first != null) {
                 first.copyFrom(from);
-                tryFrom(0, Math.min(n, MOST_ROW));
+                tryFrom(this, 0, Math.min(n, MOST_ROW));
             }
         }
 
-        private void tryFrom(int depth, int n) {
-            State here = states[depth];
+        private static void tryFrom(RowSearch search, int depth, int n) {
+            State here = search.states[depth];
             if (here == null) {
                 return;
             }
             if (depth >= n) {
-                keepIfFewer(here, n);
+                search.keepIfFewer(here, n);
                 return;
             }
-            State next = states[depth + 1];
-            int loose = press.looseOf(here);
+            State next = search.states[depth + 1];
+            int loose = search.press.looseOf(here);
             for (int mended = NONE; next != null && mended < MOST_LETTERS; mended++) {
                 if (mended == NONE || hasBit(loose, mended)) {
-                    tried[depth] = mended;
+                    search.tried[depth] = mended;
                     next.copyFrom(here);
-                    press.printWith(next, mended);
-                    tryFrom(depth + 1, n);
+                    search.press.printWith(next, mended);
+                    tryFrom(search, depth + 1, n);
                 }
             }
         }
@@ -1267,28 +1278,34 @@ public final class ErrataRow {
                     return right == 0 ? 0 : left / right;
                 case REST:
                     return right == 0 ? 0 : left % right;
+                case AND:
+                    return left != 0 && right != 0 ? 1 : 0;
+                case OR:
+                    return left != 0 || right != 0 ? 1 : 0;
+                case LESS:
+                    return left < right ? 1 : 0;
+                case LESS_OR_SAME:
+                    return left <= right ? 1 : 0;
+                case SAME:
+                    return left == right ? 1 : 0;
+                case MORE_OR_SAME:
+                    return left >= right ? 1 : 0;
                 default:
-                    return isHeld(code, left, right) ? 1 : 0;
+                    return left > right ? 1 : 0;
             }
         }
 
-        private static boolean isHeld(int code, long left, long right) {
-            switch (code) {
-                case AND:
-                    return left != 0 && right != 0;
-                case OR:
-                    return left != 0 || right != 0;
-                case LESS:
-                    return left < right;
-                case LESS_OR_SAME:
-                    return left <= right;
-                case SAME:
-                    return left == right;
-                case MORE_OR_SAME:
-                    return left >= right;
-                default:
-                    return left > right;
+        boolean asksFor(int word) {
+            for (int i = 0; i < codes.length; i++) {
+                if (codes[i] == codeOf(word)) {
+                    return true;
+                }
             }
+            return false;
+        }
+
+        static int codeOf(int word) {
+            return -1 - word;
         }
     }
 
@@ -1483,7 +1500,6 @@ public final class ErrataRow {
     /** Reads the text of a book. */
     private static final class BookReader {
         private static final int MOST_CLAUSES = 40;
-        private static final int MOST_QUARTER = 9;
 
         private final Tokens tokens;
         final Book told = new Book();
@@ -1597,25 +1613,11 @@ public final class ErrataRow {
             size = 0;
             clauses = 0;
             values = 0;
-            for (int clause = 0; clause <= MOST_CLAUSES; clause++) {
-                readClause();
-                if (tokens.kind == Tokens.END) {
-                    return 0;
+            while (clauses < MOST_CLAUSES) {
+                if (!tokens.isWord(Tokens.MEND)) {
+                    tokens.fail(Tokens.CANNOT_STAND);
+                    return tokens.fault;
                 }
-                tokens.takeSign(';');
-                if (tokens.fault != 0) {
-                    break;
-                }
-            }
-            return tokens.fault;
-        }
-
-        private void readClause() {
-            if (!tokens.isWord(Tokens.MEND)) {
-                tokens.fail(Tokens.CANNOT_STAND);
-            } else if (clauses >= MOST_CLAUSES) {
-                tokens.fail(Tokens.TOO_MANY_CLAUSES);
-            } else {
                 tokens.goOn();
                 readSum();
                 sumEnds[clauses] = size;
@@ -1625,7 +1627,13 @@ public final class ErrataRow {
                 }
                 clauseEnds[clauses] = size;
                 clauses++;
+                if (tokens.kind == Tokens.END) {
+                    return 0;
+                }
+                tokens.takeSign(';');
             }
+            tokens.fail(tokens.isWord(Tokens.MEND) ? Tokens.TOO_MANY_CLAUSES : Tokens.CANNOT_STAND);
+            return tokens.fault;
         }
 
         private void readTest(int depth) {
@@ -1715,7 +1723,7 @@ public final class ErrataRow {
                 tokens.fail(Tokens.TOO_MANY_VALUES);
             } else {
                 values++;
-                add(isWord ? -1 - tokens.value : tokens.value);
+                add(isWord ? Rule.codeOf(tokens.value) : tokens.value);
                 tokens.goOn();
             }
         }

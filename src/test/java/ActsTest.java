@@ -7,6 +7,7 @@ public final class ActsTest {
     editions();
     habitsInEditions();
     owedAtMost();
+    editionsAtMost();
     withoutABook();
     sets();
     mends();
@@ -96,6 +97,19 @@ public final class ActsTest {
       C.due("owed behind " + i, row.count(9), Math.min(10 * i, 999));
     }
     C.due("acts", row.count(11), 20);
+  }
+
+  private static void editionsAtMost() {
+    // Beyond 512 calls the document promises nothing; this row stops all the same.
+    ErrataRow row = Check.row("book 1 0;letter 0 0");
+    for (int i = 0; i < 999; i++) {
+      row.edition();
+    }
+    C.due("edition", row.count(5), 999);
+    C.due("one more", row.edition(), -1);
+    C.due("edition", row.count(5), 999);
+    C.due("asked editions go on", row.allRight(), 999);
+    C.due("asked editions go on", row.ahead(0, 100, 1), 0);
   }
 
   private static void withoutABook() {

@@ -95,6 +95,15 @@ public final class BestTest {
     C.due("by a rule of the purse", row.leastPurse(20), 3);
     row = Check.row("book 2 4;letter 0 1", "mend 1 if purse = 5");
     C.due("and of a quarter 2", row.leastPurse(20), 5);
+    // Rules that ask for the purse are tried with each one.
+    String asking = "mend 0 if purse = 99;mend 0";
+    row = Check.row("book 1 7;letter 0 1", asking);
+    C.due("one of 1 in 3", row.leastPurse(3), 3);
+    C.due("one of 1 in 40", row.leastPurse(40), 40);
+    C.due("nobody", Check.row("book 1 7;letter 1 1", asking).leastPurse(40), 0);
+    row = Check.row("book 9 0;letter 0 1;letter 0 1;letter 0 1", asking);
+    C.due("three of 9 in 37, asking", row.leastPurse(37), 999);
+    C.due("three of 9 in 38, asking", row.leastPurse(38), -2);
     // What is owed already does not count.
     row = Check.row("book 1 0;letter 0 1", "mend 0");
     row.edition();
@@ -128,6 +137,13 @@ public final class BestTest {
     rests(row, 2, 0, -2, -2);
     C.due("rests(1, 0, 1, 1)", row.rests(1, 0, 1, 1), 0);
     C.due("rests(1, 0, 1, 2)", row.rests(1, 0, 1, 2), 1);
+    // Of two that are wrong the one that is put as more is mended, the other one paid.
+    row = Check.row("book 1 1;letter 0 0;letter 0 0;habit 7 7", "mend put");
+    rests(row, 1, 9, 0, 0);
+    // Paid once and not paid once is nothing.
+    row = Check.row("book 1 1;letter 0 0;letter 0 0", "mend 0");
+    rests(row, 2, 15, 0, 0);
+    rests(row, 3, 1, 0, 0);
     C.due("rests(0, 1, 0, 0)", row.rests(0, 1, 0, 0), -1);
     C.due("rests(0, 1, 21, 0)", row.rests(0, 1, 21, 0), -1);
     C.due("rests(0, 1, 1, 3)", row.rests(0, 1, 1, 3), -1);
@@ -150,6 +166,14 @@ public final class BestTest {
     row.one(40, 0);
     row.leftOff(1, 0);
     C.due("no habit stays left off", row.ahead(0, 3, 1), ahead);
+    ErrataRow once = Check.row("book 1 0;letter 1 1;habit 1 2", "mend 0");
+    C.due("the habit is left off", once.leftOff(1, 0), 0);
+    C.due("row by all habits", once.row(1, 0), 1);
+    C.due("the habit is left off", once.leftOff(1, 1), 0);
+    C.due("ahead by all habits", once.ahead(0, 1, 0), 2);
+    once.leftOff(1, 0);
+    once.edition();
+    C.due("edition by all habits", once.letter(0, 0), 2);
     row.leastPurse(40);
     row.rests(0, 1, 20, 0);
     for (int what = 0; what < 14; what++) {

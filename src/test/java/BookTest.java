@@ -65,6 +65,8 @@ public final class BookTest {
     fault(";book 1 0", 0, 0);
     fault("book 1 0 1", 9, 0);
     fault("books 1 0", 0, 0);
+    fault("bookz 1 0", 0, 0);
+    fault("abook 1 0", 0, 0);
     fault("boo 1 0", 0, 0);
     fault("b", 0, 0);
     fault("Book 1 0", 0, 0);
@@ -151,6 +153,7 @@ public final class BookTest {
     }
     C.due("undo", row.undo(), -1);
     C.due("habit(0, 0)", row.habit(0, 0), 0);
+    C.due("habit(0, 1)", row.habit(0, 1), 0);
     C.due("habit(1, 0)", row.habit(1, 0), -1);
     C.due("letter(0, 2)", row.letter(0, 2), 0);
     C.due("letter(0, 3)", row.letter(0, 3), 0);

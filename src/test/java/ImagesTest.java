@@ -77,9 +77,23 @@ public final class ImagesTest {
     // What is done then does not change the image.
     row.set(3, 0);
     row.note(-1, 0, 0);
+    row.note(7, 1, 5);
     C.due("back(3)", row.back(3), 2);
     C.due("put", row.letter(3, 0), 5);
     C.due("notes", row.count(10), 1);
+    C.due("the note that was, again", row.putAs(0), 2);
+    row.note(-1, 0, 0);
+    row.note(1, 1, 6);
+    row.back(3);
+    C.due("its letter", row.putAs(0), 2);
+    row.note(-1, 0, 0);
+    row.note(1, 0, 1);
+    row.back(3);
+    C.due("its put", row.putAs(0), 2);
+    row.note(-1, 0, 0);
+    row.note(0, 0, 6);
+    row.back(3);
+    C.due("its edition", row.putAs(0), 2);
   }
 
   private static void theBookToo() {

@@ -7,6 +7,7 @@ public final class RuleTest {
 
   public static void main(String[] args) {
     numbersOfRules();
+    eachForItself();
     cannotStand();
     numbers();
     depth();
@@ -46,6 +47,23 @@ public final class RuleTest {
     C.due("a faulty rule", Check.rule(row, "mend 1 1"), Check.fault(7, 0));
     C.due("its tape is empty", row.count(13), 0);
     C.due("rules", row.count(3), 0);
+    // Each rule for itself: as many clauses and values as there may be, six times.
+    for (int i = 0; i < 3; i++) {
+      C.due("rule of 12 clauses", Check.rule(row, Check.repeated("mend put", ";", 12)), 2 * i);
+      C.due("rule of 60 values", Check.rule(row, "mend " + Check.repeated("put", "+", 60)), 2 * i + 1);
+    }
+  }
+
+  private static void eachForItself() {
+    String[] rules = {"mend 0", "mend 5 if put = 2;mend 1", "mend 1 if put = 3", "mend " + Check.repeated("letter", "+", 50),
+        "mend 0-1+" + Check.repeated("put", "+", 58), "mend 1 if letter > 0 and letter < 3;mend 9 if put = 9"};
+    ErrataRow row = Check.row("book 1 9;letter 1 0;letter 3 0;letter 2 0;letter 3 0;letter 7 7", rules);
+    int[] want = {-2, 2, 1, 3, 1, 1};
+    for (int i = 0; i < 6; i++) {
+      row.force(i);
+      C.due("edition by rule " + i, row.edition(), want[i]);
+      row.undo();
+    }
   }
 
   private static void cannotStand() {

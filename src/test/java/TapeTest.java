@@ -67,6 +67,14 @@ public final class TapeTest {
     C.due("end(7)", row.end(7), 7);
     C.due("bytes then", row.count(13), 7);
     C.due("feed behind 7", row.feed(0, 0, 0, 0, 0), 27);
+    // What was cut off is not there any more, though it would go on with what is there.
+    Check.tape(row, "book 1 0555");
+    C.due("end(8)", row.end(8), 8);
+    C.due("book", row.book(), 0);
+    C.due("purse", row.count(8), 0);
+    Check.tape(row, "mend puts");
+    C.due("end(8)", row.end(8), 8);
+    C.due("rule", row.rule(), 0);
     C.due("end(0)", row.end(0), 0);
     C.due("bytes then", row.count(13), 0);
   }

@@ -104,6 +104,9 @@ public final class BestTest {
     row = Check.row("book 9 0;letter 0 1;letter 0 1;letter 0 1", asking);
     C.due("three of 9 in 37, asking", row.leastPurse(37), 999);
     C.due("three of 9 in 38, asking", row.leastPurse(38), -2);
+    // Each one from now on.
+    row = Check.row("book 1 0;letter 0 1", "mend 1 if edition = 2 or purse = 99");
+    C.due("paid twice, asking", row.leastPurse(10), 2);
     // What is owed already does not count.
     row = Check.row("book 1 0;letter 0 1", "mend 0");
     row.edition();
@@ -140,6 +143,7 @@ public final class BestTest {
     // Of two that are wrong the one that is put as more is mended, the other one paid.
     row = Check.row("book 1 1;letter 0 0;letter 0 0;habit 7 7", "mend put");
     rests(row, 1, 9, 0, 0);
+    C.due("the other way round", row.rests(1, 0, 1, 0), 9);
     // Paid once and not paid once is nothing.
     row = Check.row("book 1 1;letter 0 0;letter 0 0", "mend 0");
     rests(row, 2, 15, 0, 0);

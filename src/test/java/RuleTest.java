@@ -64,6 +64,18 @@ public final class RuleTest {
       C.due("edition by rule " + i, row.edition(), want[i]);
       row.undo();
     }
+    // Six long ones, which take more room together than one may.
+    String[] ends = {"put", "letter", "1", "1-1", "4-put", "letter%3"};
+    for (int i = 0; i < 6; i++) {
+      rules[i] = "mend " + "0+".repeat(55) + ends[i];
+    }
+    row = Check.row("book 1 9;letter 1 0;letter 3 0;letter 2 0;letter 3 0;letter 7 7", rules);
+    int[] wantOfLong = {1, 3, 0, -2, 0, 2};
+    for (int i = 0; i < 6; i++) {
+      row.force(i);
+      C.due("edition by long rule " + i, row.edition(), wantOfLong[i]);
+      row.undo();
+    }
   }
 
   private static void cannotStand() {

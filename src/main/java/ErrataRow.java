@@ -649,13 +649,14 @@ public final class ErrataRow {
         return bits;
     }
 
+    // The 0-th EDITION is the first one that is printed: behind it one has been.
     private boolean areNotesSo() {
         int last = world.notes.last();
         for (int n = 0; n <= last; n++) {
+            press.printEdition(trial);
             if (!world.notes.isSo(n, trial.put)) {
                 return false;
             }
-            press.printEdition(trial);
         }
         return true;
     }
@@ -707,7 +708,7 @@ public final class ErrataRow {
             startByRule(rule);
             if (areNotesSo()) {
                 startByRule(rule);
-                goOn(n);
+                goOn(n + 1);
                 scratch[many] = packed(trial.put);
                 many++;
             }

@@ -40,7 +40,7 @@ public final class ImagesTest {
     row.edition();
     row.edition();
     row.hang(3, 0);
-    row.note(1, 0, 6);
+    row.note(0, 0, 6);
     row.seed(9);
     int[] counts = new int[14];
     for (int what = 0; what < 14; what++) {
@@ -83,15 +83,15 @@ public final class ImagesTest {
     C.due("notes", row.count(10), 1);
     C.due("the note that was, again", row.putAs(0), 2);
     row.note(-1, 0, 0);
-    row.note(1, 1, 6);
+    row.note(0, 1, 6);
     row.back(3);
     C.due("its letter", row.putAs(0), 2);
     row.note(-1, 0, 0);
-    row.note(1, 0, 1);
+    row.note(0, 0, 1);
     row.back(3);
     C.due("its put", row.putAs(0), 2);
     row.note(-1, 0, 0);
-    row.note(0, 0, 6);
+    row.note(1, 0, 6);
     row.back(3);
     C.due("its edition", row.putAs(0), 2);
   }
@@ -108,8 +108,8 @@ public final class ImagesTest {
     C.due("quarter", row.count(0), 2);
     C.due("habit", row.habit(0, 1), 6);
     C.due("meant", row.letter(1, 1), 3);
-    // Its begin is as it was told.
-    row.note(0, 1, 2);
+    // Its begin is as it was told: letter 0, which was right, is put as 6 by habit in edition 0.
+    row.note(0, 0, 6);
     C.due("ruled", row.ruled(0), 1);
     C.due("back(1)", row.back(1), 0);
     C.due("meant", row.letter(0, 1), 4);

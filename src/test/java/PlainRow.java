@@ -483,9 +483,14 @@ final class PlainRow {
     return s;
   }
 
+  /** How it is when edition n, counted from edition 0 on, has been printed. */
+  State behind(State begin, int n, int rule) {
+    return course(begin, n + 1, rule).get(n).state;
+  }
+
   /** As what a letter is put behind the n-th edition of all: for the tests alone. */
   int putBehind(int n, int letter, int rule) {
-    return after(book.begin, n, rule).put.get(letter);
+    return behind(book.begin, n, rule).put.get(letter);
   }
 
   // ---------------------------------------------------------------- the face
@@ -854,14 +859,11 @@ final class PlainRow {
   }
 
   private boolean noted(State begin, int rule) {
-    State s = begin;
-    for (int n = 0; n <= 60; n++) {
-      for (Note note : notes) {
-        if (note.n == n && s.put.get(note.letter) != note.put) {
-          return false;
-        }
+    List<Done> course = course(begin, 61, rule);
+    for (Note note : notes) {
+      if (course.get(note.n).state.put.get(note.letter) != note.put) {
+        return false;
       }
-      s = next(s, rule).state;
     }
     return true;
   }
@@ -995,7 +997,7 @@ final class PlainRow {
     for (int i = 0; i < book.letters() && !all.isEmpty(); i++) {
       Map<Integer, Integer> alike = new HashMap<>();
       for (int r : all) {
-        alike.merge(after(book.begin, n, r).put.get(i), 1, Integer::sum);
+        alike.merge(behind(book.begin, n, r).put.get(i), 1, Integer::sum);
       }
       int most = alike.values().stream().max(Integer::compare).get();
       if (best[0] == -2 || most < best[1]) {

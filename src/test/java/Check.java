@@ -4,13 +4,20 @@ import java.nio.charset.StandardCharsets;
 final class Check {
   private int asked;
   private int wrong;
+  private String sentence = "";
 
   void due(String call, int got, int want) {
     asked++;
     if (got != want) {
       wrong++;
-      System.out.println(call + " answered " + got + ", due is " + want);
+      System.out.println(call + " answered " + got + ", due is " + want + sentence);
     }
+  }
+
+  /** From here on it is this sentence that is tested: of a promise, or of the Terms (0). */
+  void says(int promise, String quote) {
+    sentence = " (" + quote + ")";
+    isTrue("the document says so in " + promise, Document.part(promise).contains(quote));
   }
 
   void isTrue(String what, boolean holds) {
@@ -57,6 +64,26 @@ final class Check {
   /** What book() and rule() answer for a fault. */
   static int fault(int place, int kind) {
     return -2 - (1 + 8 * place + kind);
+  }
+
+  /** A book of this text answers so. */
+  void dueBook(String text, int want) {
+    due("book \"" + text + "\"", book(new ErrataRow(), text), want);
+  }
+
+  /** A book of this text, without the mark ^, has a fault where the mark stands. */
+  void faultyBook(String marked, int kind) {
+    dueBook(marked.replace("^", ""), fault(marked.indexOf('^'), kind));
+  }
+
+  /** A rule of this text answers so. */
+  void dueRule(String text, int want) {
+    due("rule \"" + text + "\"", rule(new ErrataRow(), text), want);
+  }
+
+  /** A rule of this text, without the mark ^, has a fault where the mark stands. */
+  void faultyRule(String marked, int kind) {
+    dueRule(marked.replace("^", ""), fault(marked.indexOf('^'), kind));
   }
 
   /** A new row with the book, and with the rules, the first of which is in force. */

@@ -246,6 +246,16 @@ public final class AheadEdgesTest {
     dueRow("chain", chain, 3, 1, 3, 2, 1);
     dueRow("chain", chain, 4, 0, 3, 2, 1, 0);
     dueRow("two that hang on each other", Check.row("book 1 0;letter 0 1;letter 0 1;hangs 0 1;hangs 1 0"), 4, 2, -1, -1, -1, -1);
+    StringBuilder ring = new StringBuilder(TEN_WRONG);
+    for (int i = 0; i <= 9; i++) {
+      ring.append(";hangs ").append(i).append(' ').append((i + 1) % 10);
+    }
+    dueRow("ten that hang on each other", Check.row(ring.toString()), 1, 10, -1);
+    dueRow("ten that hang on each other", Check.row(ring.toString()), 4, 10, -1, -1, -1, -1);
+    ErrataRow again = Check.row(TEN_WRONG);
+    dueRow("ten", again, 4, 6, 0, 1, 2, 3);
+    Check.book(again, ring.toString());
+    dueRow("ten that hang on each other, asked behind others", again, 4, 10, -1, -1, -1, -1);
     dueRow("the tenth alone", Check.row("book 1 0" + ";letter 1 1".repeat(9) + ";letter 0 1"), 1, 0, 9);
     // Each edition by its own habit: mended in edition 0 it would be put wrong in edition 1.
     dueRow("put wrong again", Check.row("book 1 0;letter 0 1;habit 7 7;habit 1 2"), 2, 0, -1, 0);

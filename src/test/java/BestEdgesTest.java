@@ -164,6 +164,9 @@ public final class BestEdgesTest {
       dueLeftOff("habit " + habit, row, 12, habit, 0);
       dueLeftOff("habit " + habit, row, 40, habit, 0);
     }
+    // As many as there can be are wrong.
+    dueLeftOff("ten wrong", Check.row("book 1 0" + ";letter 0 1".repeat(10) + ";habit 5 6".repeat(12), "mend 0"), 1, -1, 10);
+    dueLeftOff("ten wrong", Check.row("book 1 0" + ";letter 0 1".repeat(10) + ";habit 5 6".repeat(12), "mend 0"), 40, -1, 10);
     // No habit is told: none can be left off.
     dueLeftOff("none told", Check.row("book 1 0;letter 0 1;letter 0 0", "mend 0"), 1, -1, 1);
     dueLeftOff("one told", Check.row("book 1 0;letter 0 0;habit 0 1", "mend 0"), 1, 0, 0);
@@ -185,6 +188,16 @@ public final class BestEdgesTest {
     // Nothing is put by it, not another letter either, and what is mended is mended all the same.
     row = Check.row("book 1 0;letter 0 1;letter 1 1;letter 1 1;habit 1 2");
     dueLeftOff("mended, and none put", row, 1, 0, 0);
+    // It is left off for this question alone.
+    row = Check.row("book 1 0;letter 1 1;habit 1 2", "mend 0");
+    for (int what = 0; what <= 1; what++) {
+      C.due("leftOff(1, " + what + ")", row.leftOff(1, what), 0);
+      C.due("row(1, 0) by the habit", row.row(1, 0), 1);
+      C.due("leftOff(1, " + what + ")", row.leftOff(1, what), 0);
+      C.due("ahead(0, 1, 0) by the habit", row.ahead(0, 1, 0), 2);
+      C.due("leftOff(1, " + what + ")", row.leftOff(1, what), 0);
+      C.due("ring(0) by the habit", row.ring(0), 1);
+    }
     // The habit puts it right: it had best be.
     dueLeftOff("it had best be", Check.row("book 1 0;letter 0 1;habit 0 1", "mend 0"), 1, -1, 0);
   }
@@ -307,6 +320,11 @@ public final class BestEdgesTest {
         .leastPurse(12), -2);
     C.due("mended by 1000", Check.row("book 9 0" + ";letter 0 1".repeat(10), "mend 1 if edition = 0 and purse = 1000")
         .leastPurse(12), -2);
+    // A rule of nothing but the purse: mended by 1.
+    C.due("mend purse", Check.row("book 1 5;letter 0 1", "mend purse").leastPurse(40), 1);
+    C.due("mend purse-3", Check.row("book 1 5;letter 0 1", "mend purse-3").leastPurse(40), 4);
+    C.due("mend 5-purse", Check.row("book 9 5;letter 0 1", "mend 5-purse").leastPurse(40), 0);
+    C.due("in a later clause", Check.row("book 1 5;letter 0 1", "mend 0 if letter = 7;mend 1 if 3 = purse").leastPurse(40), 3);
     // More is not always better: by 2 it is mended, by 3 to 39 it is not paid in the end.
     ErrataRow row = Check.row("book 1 0;letter 0 1", "mend 1 if purse = 2 and edition = 0");
     C.due("by 2", row.leastPurse(40), 2);

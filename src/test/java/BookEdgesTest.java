@@ -189,6 +189,15 @@ public final class BookEdgesTest {
     Check.book(row, "book 1 9;letter 1 1");
     row.edition();
     C.due("no habit any more", row.letter(0, 0), 1);
+    Check.book(row, "book 1 9;letter 0 0;letter 1 1;habit 0 5;habit 1 6");
+    Check.book(row, "book 1 9;letter 0 0;letter 1 1");
+    C.due("editions that come round", row.count(1), 1);
+    C.due("from", row.habit(0, 0), 0);
+    C.due("to", row.habit(0, 1), 0);
+    row.edition();
+    row.edition();
+    C.due("letter 0 stays", row.letter(0, 0), 0);
+    C.due("letter 1 stays", row.letter(1, 0), 1);
   }
 
   private static void atTheBegin() {

@@ -11,6 +11,7 @@ public final class ImagesEdgesTest {
     allIsAsItWas();
     tapeAndRulesStay();
     theImageStays();
+    notesOfAnImage();
     madeAnew();
     nothingCanBeUndone();
     withoutABook();
@@ -187,6 +188,32 @@ public final class ImagesEdgesTest {
     C.due("back(2)", row.back(2), 19);
     C.due("back(0)", row.back(0), 0);
     C.due("letters", row.count(2), 0);
+  }
+
+  private static void notesOfAnImage() {
+    C.says(0, "as it is (the RULE IN FORCE, too); gone back to, it is as it was");
+    // Of ten notes one tells that letter 3 was put as 6 behind edition 0; all others are so in any case. In edition 1 it
+    // is put as 5.
+    for (int tells = 0; tells <= 9; tells++) {
+      ErrataRow row = Check.row("book 1 0" + ";letter 2 2".repeat(4) + ";habit 7 7;habit 6 5", "mend 0");
+      for (int i = 0; i <= 9; i++) {
+        C.due("note", i == tells ? row.note(0, 3, 6) : row.note(i, 0, 2), i + 1);
+      }
+      row.image(0);
+      C.due("putAs(3)", row.putAs(3), 64);
+      // Others in their place: of another edition, of another letter, of another put.
+      int[][] others = {{59, 3, 6}, {0, 1, 6}, {0, 3, 5}};
+      for (int[] other : others) {
+        row.note(-1, 0, 0);
+        for (int i = 0; i <= 9; i++) {
+          row.note(other[0], other[1], other[2]);
+        }
+        C.due("back(0)", row.back(0), 0);
+        C.due("notes", row.count(10), 10);
+        C.due("putAs(3)", row.putAs(3), 64);
+        C.due("putAs(0), not as letter 3 is", row.putAs(0), 0);
+      }
+    }
   }
 
   private static void madeAnew() {

@@ -14,6 +14,10 @@ public final class QuotesTest {
   private static final Pattern SAYS = Pattern.compile("\\.says\\((\\d+),\\s*(" + TEXT + "(?:\\s*\\+\\s*" + TEXT + ")*)\\)");
 
   public static void main(String[] args) throws IOException {
+    if (!Document.isHere()) {
+      System.out.println("the document is not here: its sentences are not looked through");
+      return;
+    }
     List<List<String>> quotes = new ArrayList<>();
     for (int promise = 0; promise <= Document.PROMISES; promise++) {
       quotes.add(new ArrayList<>());

@@ -23,6 +23,7 @@ public final class RuleEdgesTest {
     values();
     theEnd();
     eachByte();
+    numbersOfSigns();
     theFirstAlongTheText();
     theLeastOfOnePlace();
     aRule();
@@ -74,6 +75,15 @@ public final class RuleEdgesTest {
     C.due("all 400", mended(TEN, "mend letter" + " ".repeat(387) + "+1"), 9);
     C.faultyRule("mend 1" + " ".repeat(393) + "^x", 0);
     C.faultyRule("mend 1" + " ".repeat(393) + ";^", 0);
+    C.faultyRule("mend 1 if 1" + " ".repeat(388) + "<^", 0);
+    C.faultyRule("mend 1 if 1" + " ".repeat(388) + ">^", 0);
+    C.faultyRule("mend 1 if 1" + " ".repeat(387) + "<=^", 0);
+    // What stood there before is not read: the tape ends behind <.
+    ErrataRow row = new ErrataRow();
+    Check.tape(row, "mend 1 if 1<=1");
+    row.end(12);
+    row.feed(0x20202020, 0x20202020, 0x20202020, 0x20202020, 0x20203120);
+    C.due("< and not <=", row.rule(), 0);
     C.faultyRule("^", 0);
     C.dueRule("mend 1", 0);
     C.faultyRule("^;mend 1", 0);
@@ -296,6 +306,8 @@ public final class RuleEdgesTest {
     // Only what hangs on itself counts, not what it hangs on, nor what hangs on others.
     String chain = "book 1 0;letter 0 1;letter 0 1;letter 0 1;letter 0 0;hangs 0 1;hangs 1 2;hangs 2 3";
     C.due("over of the last", mended(chain, "mend 1 if over = 1"), 2);
+    C.due("over of the last, on which the first hangs", mended(TEN + ";hangs 0 9", "mend 1 if over = 1"), 9);
+    C.due("over of the first, on which the last hangs", mended(TEN + ";hangs 9 0", "mend 1 if over = 1"), 0);
     // Of letters that are not loose nothing is asked.
     C.due("not loose", mended(chain, "mend 1 if letter < 2"), -2);
   }
@@ -472,6 +484,17 @@ public final class RuleEdgesTest {
     C.dueRule("mend 1+1+1 if not[" + facts + "]", 0);
     C.faultyRule("mend 1+1+1 if not[" + facts + " and ^1=1]", 3);
     C.faultyRule("mend 1+1+1 if not[" + facts + "];mend ^1", 3);
+    // Each rule by itself: six of them with sixty values, and faulty ones between.
+    ErrataRow row = new ErrataRow();
+    for (int i = 0; i <= 5; i++) {
+      C.due("rule " + i + " of sixty", Check.rule(row, "mend " + "0+".repeat(56) + "1 if letter=" + i), i);
+      C.due("one of 61 between", Check.rule(row, sixty + "+1"), i < 5 ? Check.fault(125, 3) : -1);
+    }
+    Check.book(row, TEN);
+    for (int i = 5; i >= 0; i--) {
+      row.force(i);
+      C.due("by rule " + i, row.edition(), i);
+    }
     // The sixtieth one counts.
     C.due("the sixtieth value", mended(TEN, "mend " + "0+".repeat(59) + "letter"), 9);
     C.due("the twentieth fact", mended(TEN, "mend 1 if " + "1=2 or ".repeat(18) + "letter=7"), 7);
@@ -502,6 +525,19 @@ public final class RuleEdgesTest {
       C.dueRule("mend 1 if [1=1 " + (char) sign, sign == ']' ? 0 : Check.fault(sign == ' ' || joins ? 16 : 15, 0));
       C.dueRule((char) sign + "mend 1", sign == ' ' ? 0 : Check.fault(0, 0));
     }
+  }
+
+  private static void numbersOfSigns() {
+    C.says(0, "0 a byte or WORD that can't stand there");
+    // A number is no sign, though it be the number of the sign's byte.
+    for (int number = 0; number <= 600; number++) {
+      C.faultyRule("mend 1 ^" + number + " 1", 0);
+      C.faultyRule("mend 1 if 1 ^" + number + " 1", 0);
+      C.faultyRule("mend 1 if " + number + " ^1=1]", 0);
+    }
+    C.faultyRule("mend 1 ^59 mend 1", 0);
+    C.faultyRule("mend 1 if [1=1 ^93", 0);
+    C.faultyBook("book 1 0 ^59 letter 1 1", 0);
   }
 
   private static void theFirstAlongTheText() {

@@ -105,6 +105,15 @@ final class Check {
     return row;
   }
 
+  /** A row whose letters are put so, one a digit, and meant as 0. */
+  static ErrataRow put(String digits) {
+    StringBuilder book = new StringBuilder("book 1 0");
+    for (char digit : digits.toCharArray()) {
+      book.append(";letter ").append(digit).append(" 0");
+    }
+    return row(book.toString());
+  }
+
   static String repeated(String part, String between, int times) {
     StringBuilder out = new StringBuilder();
     for (int i = 0; i < times; i++) {

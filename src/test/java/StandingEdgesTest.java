@@ -23,15 +23,6 @@ public final class StandingEdgesTest {
     C.close();
   }
 
-  /** A row whose letters are put so, one a digit, and meant as 0. */
-  private static ErrataRow put(String digits) {
-    StringBuilder book = new StringBuilder("book 1 0");
-    for (char digit : digits.toCharArray()) {
-      book.append(";letter ").append(digit).append(" 0");
-    }
-    return Check.row(book.toString());
-  }
-
   private static void ringsOfTwoToTen() {
     C.says(0, "RINGS: WRONG LETTERS that, one by one over such as are WRONG, HANG on themselves, as bits.");
     for (int many = 1; many <= 10; many++) {
@@ -41,7 +32,7 @@ public final class StandingEdgesTest {
         if (step < 1 || many % 3 == 0 && step == 3 || step >= many) {
           continue;
         }
-        ErrataRow row = put("1".repeat(10));
+        ErrataRow row = Check.put("1".repeat(10));
         for (int i = 0; i < many - 1; i++) {
           row.hang(i * step % many, (i + 1) * step % many);
         }
@@ -50,13 +41,13 @@ public final class StandingEdgesTest {
         C.due(many + " by " + step + ", closed", row.rings(), (1 << many) - 1);
       }
     }
-    C.due("none hangs on itself alone", put("1").rings(), 0);
+    C.due("none hangs on itself alone", Check.put("1").rings(), 0);
   }
 
   private static void ringsOverWrongOnes() {
     C.says(0, "WRONG LETTERS that, one by one over such as are WRONG");
     for (int right = 0; right <= 9; right++) {
-      ErrataRow row = put("1".repeat(10));
+      ErrataRow row = Check.put("1".repeat(10));
       for (int i = 0; i <= 9; i++) {
         row.hang(i, (i + 1) % 10);
       }
@@ -66,7 +57,7 @@ public final class StandingEdgesTest {
       C.due("a ring of ten, and " + right + " is wrong otherwise", row.rings(), 1023);
     }
     // Two ways round: the longer one stays when the shorter one's letter is right.
-    ErrataRow row = put("1111");
+    ErrataRow row = Check.put("1111");
     row.hang(0, 1);
     row.hang(1, 0);
     row.hang(1, 2);
@@ -83,7 +74,7 @@ public final class StandingEdgesTest {
   private static void ringsOfAll() {
     C.says(0, "HANG on themselves, as bits.");
     // What hangs on a ring, and what a ring hangs on, is none.
-    ErrataRow row = put("11111");
+    ErrataRow row = Check.put("11111");
     row.hang(1, 2);
     row.hang(2, 3);
     row.hang(3, 1);
@@ -92,18 +83,18 @@ public final class StandingEdgesTest {
     C.due("only the ring itself", row.rings(), 14);
     row.hang(4, 0);
     C.due("all five", row.rings(), 31);
-    row = put("1".repeat(10));
+    row = Check.put("1".repeat(10));
     for (int i = 0; i < 10; i += 2) {
       row.hang(i, i + 1);
       row.hang(i + 1, i);
     }
     C.due("five rings of two", row.rings(), 1023);
     C.says(20, "RINGS, as bits;");
-    row = put("1".repeat(10));
+    row = Check.put("1".repeat(10));
     row.hang(0, 9);
     row.hang(9, 0);
     C.due("the first and the last", row.rings(), 513);
-    C.due("without letters", put("").rings(), 0);
+    C.due("without letters", Check.put("").rings(), 0);
     // Told by the text, too.
     C.due("told", Check.row("book 1 0;letter 1 0;letter 1 0;letter 0 0;hangs 0 1;hangs 1 0;hangs 2 0").rings(), 3);
   }
@@ -114,7 +105,7 @@ public final class StandingEdgesTest {
   }
 
   private static void dueTwice(String digits, int length, int first, int second) {
-    ErrataRow row = put(digits);
+    ErrataRow row = Check.put(digits);
     C.due(digits + ": twice(0)", row.twice(0), length);
     C.due(digits + ": twice(1)", row.twice(1), first);
     C.due(digits + ": twice(2)", row.twice(2), second);
@@ -169,7 +160,7 @@ public final class StandingEdgesTest {
     int[] whats = {-1, 3, 4, LEAST, MOST};
     for (int what : whats) {
       Twins.nothingHappens(C, "twice(" + what + ")", Twins::rich, row -> row.twice(what), -1);
-      C.due("twice(" + what + ") of nothing", put("01").twice(what), -1);
+      C.due("twice(" + what + ") of nothing", Check.put("01").twice(what), -1);
     }
     for (int what = 0; what <= 2; what++) {
       int of = what;
@@ -180,7 +171,7 @@ public final class StandingEdgesTest {
   private static void apartOfLengths() {
     C.says(0, "APART of two places (LETTERS) and a length (1 to 10, so that both parts are there):");
     for (int letters = 1; letters <= 10; letters++) {
-      ErrataRow row = put("0123456701".substring(0, letters));
+      ErrataRow row = Check.put("0123456701".substring(0, letters));
       for (int length = 1; length <= letters; length++) {
         int last = letters - length;
         C.due(letters + ": apart(" + last + ", " + last + ", " + length + ")", row.apart(last, last, length), 0);
@@ -193,7 +184,7 @@ public final class StandingEdgesTest {
 
   private static void apartTheFewest() {
     C.says(0, "the fewest LETTERS to be put in, taken out or put otherwise, so that the one part is the other.");
-    ErrataRow row = put("0123456701");
+    ErrataRow row = Check.put("0123456701");
     C.due("0 and 1", row.apart(0, 1, 1), 1);
     C.due("0 and 0", row.apart(0, 8, 1), 0);
     C.due("01 and 01", row.apart(8, 0, 2), 0);
@@ -209,16 +200,16 @@ public final class StandingEdgesTest {
     C.due("01234567 and 23456701", row.apart(0, 2, 8), 4);
     C.due("01234 and 56701", row.apart(0, 5, 5), 5);
     C.due("all ten", row.apart(0, 0, 10), 0);
-    row = put("1112111311");
+    row = Check.put("1112111311");
     C.due("1112 and 1113: put otherwise", row.apart(0, 4, 4), 1);
     C.due("11121 and 11131", row.apart(0, 4, 5), 1);
     C.due("111211 and 111311", row.apart(0, 4, 6), 1);
     // Not by place alone: 2111 and 1112.
     C.due("2111 and 1112", row.apart(3, 0, 4), 2);
-    C.due("2111 and 3113", put("21113113").apart(0, 4, 4), 2);
-    C.due("012 and 120, of which one stays", put("012120").apart(0, 3, 3), 2);
-    C.due("01234 and 03124: one moved", put("0123403124").apart(0, 5, 5), 2);
-    C.due("01234 and 10324: 0 out, 0 for 2, 2 in", put("0123410324").apart(0, 5, 5), 3);
+    C.due("2111 and 3113", Check.put("21113113").apart(0, 4, 4), 2);
+    C.due("012 and 120, of which one stays", Check.put("012120").apart(0, 3, 3), 2);
+    C.due("01234 and 03124: one moved", Check.put("0123403124").apart(0, 5, 5), 2);
+    C.due("01234 and 10324: 0 out, 0 for 2, 2 in", Check.put("0123410324").apart(0, 5, 5), 3);
     C.says(22, "APART;");
     row.set(0, 5);
     C.due("as it is put now", row.apart(0, 1, 1), 1);
@@ -235,9 +226,9 @@ public final class StandingEdgesTest {
     }
     C.isTrue("apart(4, 0, 1) of five", Twins.rich().apart(4, 0, 1) >= 0);
     C.isTrue("apart(0, 1, 4) of five", Twins.rich().apart(0, 1, 4) >= 0);
-    C.due("apart(0, 0, 11) of ten", put("1".repeat(10)).apart(0, 0, 11), -1);
+    C.due("apart(0, 0, 11) of ten", Check.put("1".repeat(10)).apart(0, 0, 11), -1);
     Twins.nothingHappens(C, "apart(0, 0, 1) without a book", ErrataRow::new, row -> row.apart(0, 0, 1), -1);
-    Twins.nothingHappens(C, "apart(0, 0, 1) without letters", () -> put(""), row -> row.apart(0, 0, 1), -1);
+    Twins.nothingHappens(C, "apart(0, 0, 1) without letters", () -> Check.put(""), row -> row.apart(0, 0, 1), -1);
   }
 
   /** A row whose letters were paid so often, one a digit. */
@@ -335,15 +326,15 @@ public final class StandingEdgesTest {
     int[] much = {-1, -2, 10000, 10001, LEAST, MOST};
     for (int all : much) {
       Twins.nothingHappens(C, "pence(" + all + ", 0)", Twins::rich, row -> row.pence(all, 0), -1);
-      C.due("pence(" + all + ", 0), none was paid", put("1").pence(all, 0), -1);
+      C.due("pence(" + all + ", 0), none was paid", Check.put("1").pence(all, 0), -1);
     }
     int[] letters = {-1, 5, 9, 10, LEAST, MOST};
     for (int letter : letters) {
       Twins.nothingHappens(C, "pence(1, " + letter + ") of five", Twins::rich, row -> row.pence(1, letter), -1);
     }
     C.isTrue("pence(9999, 4) of five", Twins.rich().pence(9999, 4) >= 0);
-    C.due("pence(0, 10) of ten", put("1".repeat(10)).pence(0, 10), -1);
-    C.due("pence(0, 0) without letters", put("").pence(0, 0), -1);
+    C.due("pence(0, 10) of ten", Check.put("1".repeat(10)).pence(0, 10), -1);
+    C.due("pence(0, 0) without letters", Check.put("").pence(0, 0), -1);
     Twins.nothingHappens(C, "pence(0, 0) without a book", ErrataRow::new, row -> row.pence(0, 0), -1);
   }
 }

@@ -12,17 +12,8 @@ public final class StandingTest {
     C.close();
   }
 
-  /** A row whose letters are put so, one a digit, and meant as 0. */
-  private static ErrataRow put(String digits) {
-    StringBuilder book = new StringBuilder("book 1 0");
-    for (char digit : digits.toCharArray()) {
-      book.append(";letter ").append(digit).append(" 0");
-    }
-    return Check.row(book.toString());
-  }
-
   private static void rings() {
-    ErrataRow row = put("11111");
+    ErrataRow row = Check.put("11111");
     C.due("none hangs", row.rings(), 0);
     row.hang(0, 1);
     row.hang(1, 2);
@@ -40,7 +31,7 @@ public final class StandingTest {
     C.due("not over one that is right", row.rings(), 24);
     row.set(3, 0);
     C.due("none", row.rings(), 0);
-    row = put("1111111111");
+    row = Check.put("1111111111");
     for (int i = 0; i < 10; i++) {
       row.hang((i * 3 + 3) % 10, i * 3 % 10);
     }
@@ -51,7 +42,7 @@ public final class StandingTest {
   }
 
   private static void twice(String digits, int length, int first, int second) {
-    ErrataRow row = put(digits);
+    ErrataRow row = Check.put(digits);
     C.due(digits + ": twice(0)", row.twice(0), length);
     C.due(digits + ": twice(1)", row.twice(1), first);
     C.due(digits + ": twice(2)", row.twice(2), second);
@@ -73,7 +64,7 @@ public final class StandingTest {
     twice("5656712312", 2, 0, 2);
     twice("7121212", 4, 1, 3);
     twice("1232415", 1, 0, 5);
-    ErrataRow row = put("11");
+    ErrataRow row = Check.put("11");
     C.due("twice(3)", row.twice(3), -1);
     C.due("twice(-1)", row.twice(-1), -1);
     row.set(1, 2);
@@ -81,7 +72,7 @@ public final class StandingTest {
   }
 
   private static void aparts() {
-    ErrataRow row = put("1215");
+    ErrataRow row = Check.put("1215");
     C.due("apart(0, 2, 2)", row.apart(0, 2, 2), 1);
     C.due("apart(2, 0, 2)", row.apart(2, 0, 2), 1);
     C.due("apart(0, 1, 3)", row.apart(0, 1, 3), 2);
@@ -100,7 +91,7 @@ public final class StandingTest {
     C.due("apart(0, 4, 1)", row.apart(0, 4, 1), -1);
     C.due("apart(0, most, 1)", row.apart(0, Integer.MAX_VALUE, 1), -1);
     C.due("apart(0, 0, most)", row.apart(0, 0, Integer.MAX_VALUE), -1);
-    row = put("1234123467");
+    row = Check.put("1234123467");
     C.due("12341 and 23412", row.apart(0, 1, 5), 2);
     C.due("12341 and 23467", row.apart(0, 5, 5), 3);
     C.due("1234 and 1234", row.apart(0, 4, 4), 0);
@@ -108,7 +99,7 @@ public final class StandingTest {
     C.due("123412346 and 234123467", row.apart(0, 1, 9), 2);
     C.due("all ten", row.apart(0, 0, 10), 0);
     C.due("more than ten", row.apart(0, 0, 11), -1);
-    row = put("1234567001");
+    row = Check.put("1234567001");
     C.due("12345 and 67001", row.apart(0, 5, 5), 5);
   }
 

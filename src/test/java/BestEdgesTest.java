@@ -95,6 +95,13 @@ public final class BestEdgesTest {
     ErrataRow row = Check.row("book 1 0;letter 2 7;habit 5 7;habit 3 7", "mend 0");
     dueOne("by two habits", row, 2, 0, 0, 3);
     dueOne("by one habit", row, 1, 0, 0, 5);
+    // What is right would be put wrong by the press; put wrong now, as whatever, it is mended: the least put of all.
+    dueOne("wrong as 0, and mended", Check.row("book 1 0;letter 1 1;habit 1 2"), 1, 0, 0, 0);
+    dueOne("wrong as 1, and mended", Check.row("book 1 0;letter 0 0;habit 0 2"), 1, 0, 0, 1);
+    // Only 0 to 7: neither below nor above is one that would be mended.
+    dueOne("none below 0", Check.row("book 1 0;letter 1 1;habit 1 2", "mend 0-put"), 1, 1, -1, -1);
+    dueOne("none above 7", Check.row("book 1 0;letter 1 1;habit 1 2", "mend put-7"), 1, 1, -1, -1);
+    dueOne("as 7", Check.row("book 1 0;letter 1 1;habit 1 2", "mend put-6"), 1, 0, 0, 7);
     // Put right, or put so that it is the one that the press has: the least put.
     row = Check.row("book 1 0;letter 2 3;letter 1 1;letter 1 1;habit 1 0", "mend 1 if put = 4");
     dueOne("right as 3, or had by the press as 1", row, 1, 1, 0, 1);

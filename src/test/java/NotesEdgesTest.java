@@ -412,6 +412,14 @@ public final class NotesEdgesTest {
     dueLook("two, and 8 is the least that parts them", row, 0, 8, 1);
     row.note(0, 8, 0);
     dueLook("one: the least of all", row, 0, 0, 1);
+    // One letter alone parts them, as 0 and 7, between others that are put as 0 or as 7.
+    for (int letter = 0; letter <= 9; letter++) {
+      for (int put = 0; put <= 7; put += 7) {
+        String others = ";letter " + put + " " + put;
+        row = Check.row("book 1 0" + others.repeat(letter) + ";letter 0 7" + others.repeat(9 - letter), "mend 0");
+        dueLook("by " + letter, row, 0, letter, 1);
+      }
+    }
     // Nothing parts them: the least of all, and all are alike.
     for (int rules = 0; rules <= 6; rules++) {
       dueLook("alike", byRules(ONE_WRONG + ";letter 0 1", rules, "mend 1"), 60, 0, rules + 1);

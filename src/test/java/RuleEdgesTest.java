@@ -13,6 +13,7 @@ public final class RuleEdgesTest {
     sumsMean();
     numbers();
     wordsCannotStand();
+    wordsLetterByLetter();
     wordsOfALetter();
     wordsOfAll();
     wordsCountedTo999();
@@ -276,6 +277,39 @@ public final class RuleEdgesTest {
     C.faultyRule("mend 1 if 1=1 ^andput=1", 0);
     C.faultyRule("mend 1 if ^notput=1", 0);
     C.dueRule("mend1if not1=1and1=1or1=1", 0);
+  }
+
+  /** With another letter for any of its own the word can't stand there. */
+  private static void eachLetterCounts(String before, String word, String behind, boolean inABook) {
+    for (int i = 0; i < word.length(); i++) {
+      char[] others = {'x', (char) (word.charAt(i) + 1), (char) (word.charAt(i) - 1)};
+      for (char other : others) {
+        String marked = before + "^" + word.substring(0, i) + other + word.substring(i + 1) + behind;
+        if (inABook) {
+          C.faultyBook(marked, 0);
+        } else {
+          C.faultyRule(marked, 0);
+        }
+      }
+    }
+  }
+
+  private static void wordsLetterByLetter() {
+    C.says(0, "0 a byte or WORD that can't stand there");
+    String[] words = {"letter", "put", "meant", "over", "loose", "wrong", "paid", "purse", "owed", "from", "to", "edition"};
+    for (String word : words) {
+      eachLetterCounts("mend ", word, "", false);
+      eachLetterCounts("mend 1 if 1=", word, "", false);
+    }
+    eachLetterCounts("", "mend", " 1", false);
+    eachLetterCounts("mend 1 ", "if", " 1=1", false);
+    eachLetterCounts("mend 1 if 1=1 ", "or", " 1=1", false);
+    eachLetterCounts("mend 1 if 1=1 ", "and", " 1=1", false);
+    eachLetterCounts("mend 1 if ", "not", " 1=1", false);
+    eachLetterCounts("", "book", " 1 0", true);
+    eachLetterCounts("book 1 0;", "letter", " 1 1", true);
+    eachLetterCounts("book 1 0;", "habit", " 1 1", true);
+    eachLetterCounts("book 1 0;letter 1 1;letter 1 1;", "hangs", " 0 1", true);
   }
 
   private static void wordsOfALetter() {

@@ -18,6 +18,7 @@ public final class SlipsEdgesTest {
     owedTo999();
     byTheRuleInForce();
     plainly();
+    drawsAtTheirEnds();
     nothingStays();
     slipsRefused();
     C.close();
@@ -231,6 +232,49 @@ public final class SlipsEdgesTest {
         }
       }
     }
+  }
+
+  private static int next(int x) {
+    return (int) (x * 1103515245L + 12345L & 0x7fffffffL);
+  }
+
+  /** The n-th x behind this one. */
+  private static int behind(int x, int n) {
+    int at = x;
+    for (int i = 0; i < n; i++) {
+      at = next(at);
+    }
+    return at;
+  }
+
+  private static void drawsAtTheirEnds() {
+    C.says(0, "a DRAW is x / 65536.");
+    // From seeds by which one of the first three x is the least or the greatest of its draw.
+    int[] ends = {0, 65535};
+    for (int n = 1; n <= 3; n++) {
+      for (int end : ends) {
+        int rest = 0;
+        while (rest < 65536 && behind(rest, n) % 65536 != end) {
+          rest++;
+        }
+        C.isTrue("there is such a seed", rest < 65536);
+        for (int high = 0; high < 32768; high += 331) {
+          dueDraws(rest + 65536 * high);
+        }
+      }
+    }
+  }
+
+  /** The letter drawn is put as drawn, if it is below p: as it is meant then, but not at first. */
+  private static void dueDraws(int x) {
+    int below = behind(x, 1) / 65536 % 100;
+    int letter = behind(x, 2) / 65536 % 10;
+    int put = behind(x, 3) / 65536 % 8;
+    String book = "book 1 0" + ";letter 1 1".repeat(letter) + ";letter " + (put + 1) % 8 + " " + put
+        + ";letter 1 1".repeat(9 - letter);
+    ErrataRow row = seeded(book, x);
+    dueSlips(row, 1, 1, below, 1, 1);
+    dueSlips(row, 1, 1, below + 1, 0, 0);
   }
 
   private static void nothingStays() {
